@@ -1,0 +1,111 @@
+import java.io.IOException;
+import java.lang.reflect.Constructor;
+import java.lang.reflect.Field;
+import java.lang.reflect.Member;
+import java.lang.reflect.Method;
+import java.lang.reflect.Modifier;
+import java.nio.file.Files;
+import java.nio.file.Path;
+import java.util.ArrayList;
+import java.util.List;
+import java.util.Set;
+import java.util.TreeSet;
+import java.util.regex.Matcher;
+import java.util.regex.Pattern;
+
+/** The face is the document's and no more, and the file keeps to the rules that can be read off it. */
+public final class FaceTest {
+    private static final Path PROGRAM = Path.of("src/main/java/ShotBook.java");
+    private static final Path DOCUMENT = Path.of("../shared/DOC.md");
+
+    private static final String[] FORBIDDEN = {"\\bthrow\\b", "\\btry\\b", "\\bcatch\\b", "\\bsynchronized\\b",
+        "\\bassert\\b", "->", "::", "\\bpackage\\b", "Exact\\b", "\\bstatic\\s*\\{", "\\bprotected\\b", "\\bRandom\\b",
+        "\\bThread\\b", "\\bcurrentTimeMillis\\b", "\\bnanoTime\\b"};
+
+    public static void main(String[] args) throws IOException {
+        Checks checks = new Checks();
+        checks.holds("the public members are the document's", visibleMembers().equals(documentMembers()));
+        checks.holds("ShotBook is public and final",
+            (ShotBook.class.getModifiers() & (Modifier.PUBLIC | Modifier.FINAL)) == (Modifier.PUBLIC | Modifier.FINAL));
+        checkConstants(checks);
+        checkNested(checks);
+        checkText(checks);
+        checks.end();
+    }
+
+    private static Set<String> visibleMembers() {
+        Set<String> found = new TreeSet<>();
+        for (Field f : ShotBook.class.getDeclaredFields()) {
+            if (isVisible(f)) {
+                found.add(Modifier.toString(f.getModifiers()) + " " + f.getType() + " " + f.getName());
+            }
+        }
+        for (Constructor<?> c : ShotBook.class.getDeclaredConstructors()) {
+            if (isVisible(c)) {
+                found.add(Modifier.toString(c.getModifiers()) + " " + c.getName() + " " + c.getParameterCount());
+            }
+        }
+        for (Method m : ShotBook.class.getDeclaredMethods()) {
+            if (isVisible(m)) {
+                found.add(Modifier.toString(m.getModifiers()) + " " + m.getReturnType() + " " + m.getName() + " "
+                    + m.getParameterCount());
+            }
+        }
+        return found;
+    }
+
+    private static boolean isVisible(Member member) {
+        return !Modifier.isPrivate(member.getModifiers()) && !member.isSynthetic();
+    }
+
+    private static Set<String> documentMembers() throws IOException {
+        String text = Files.readString(DOCUMENT);
+        String face = text.substring(text.indexOf("```java"), text.indexOf("```\n", text.indexOf("```java") + 3));
+        Set<String> found = new TreeSet<>();
+        Matcher row = Pattern.compile("(?m)^    (public [^;(=]*?) *(?:=[^;]*|\\(([^)]*)\\));").matcher(face);
+        while (row.find()) {
+            String parameters = row.group(2);
+            int count = parameters == null || parameters.isEmpty() ? 0 : parameters.split(",").length;
+            found.add(row.group(1) + (parameters == null ? "" : " " + count));
+        }
+        return found;
+    }
+
+    private static void checkConstants(Checks checks) {
+        checks.due("NUMBER", ShotBook.NUMBER, -1);
+        checks.due("FULL", ShotBook.FULL, -2);
+        checks.due("OTHER", ShotBook.OTHER, -3);
+        checks.due("NONE", ShotBook.NONE, -4);
+    }
+
+    private static void checkNested(Checks checks) {
+        List<String> publicNames = new ArrayList<>();
+        for (Method m : ShotBook.class.getDeclaredMethods()) {
+            if (Modifier.isPublic(m.getModifiers())) {
+                publicNames.add(m.getName());
+            }
+        }
+        for (Class<?> inside : ShotBook.class.getDeclaredClasses()) {
+            checks.holds(inside.getName() + " is static", Modifier.isStatic(inside.getModifiers()));
+            checks.holds(inside.getName() + " isn't public", !Modifier.isPublic(inside.getModifiers()));
+            checks.holds(inside.getName() + " has at most twenty fields", inside.getDeclaredFields().length <= 20);
+            for (Method m : inside.getDeclaredMethods()) {
+                checks.holds(m.getName() + " isn't a public call's name", !publicNames.contains(m.getName()));
+                checks.holds(m.getName() + " has at most seven parameters", m.getParameterCount() <= 7);
+            }
+        }
+        checks.holds("at most twelve classes", ShotBook.class.getDeclaredClasses().length < 12);
+    }
+
+    private static void checkText(Checks checks) throws IOException {
+        String code = Files.readString(PROGRAM).replaceAll("//[^\n]*", "").replaceAll("(?s)/\\*.*?\\*/", "");
+        for (String word : FORBIDDEN) {
+            checks.holds("the code has no " + word, !Pattern.compile(word).matcher(code).find());
+        }
+        Matcher imported = Pattern.compile("import ([^;]*);").matcher(code);
+        while (imported.find()) {
+            checks.holds("import " + imported.group(1),
+                Set.of("java.util.Arrays", "java.util.ArrayList", "java.util.List").contains(imported.group(1)));
+        }
+    }
+}
