@@ -32,6 +32,8 @@ public final class ShotBook {
     private static final int OTHER_AHEAD = 2;
 
     private static final int FIRST_MEASURE_ASKED = 10;
+    // Six FLAWS and the NOISE of fifteen pairs come to 930 at most.
+    private static final int ABOVE_ANY_COST = 1000000;
 
     private final Story now = new Story();
     private final Story kept = new Story();
@@ -596,7 +598,7 @@ public final class ShotBook {
 
         private void find(Story story) {
             reckonNoises(story);
-            leastCost = Integer.MAX_VALUE;
+            leastCost = ABOVE_ANY_COST;
             tryFrom(this, story, 0, 0);
         }
 

@@ -19,6 +19,10 @@ final class Checks {
         }
     }
 
+    int looked() {
+        return looked;
+    }
+
     boolean allRight() {
         return wrong == 0;
     }

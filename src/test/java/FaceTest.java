@@ -20,7 +20,7 @@ public final class FaceTest {
 
     private static final String[] FORBIDDEN = {"\\bthrow\\b", "\\btry\\b", "\\bcatch\\b", "\\bsynchronized\\b",
         "\\bassert\\b", "->", "::", "\\bpackage\\b", "Exact\\b", "\\bstatic\\s*\\{", "\\bprotected\\b", "\\bRandom\\b",
-        "\\bThread\\b", "\\bcurrentTimeMillis\\b", "\\bnanoTime\\b"};
+        "\\bThread\\b", "\\bcurrentTimeMillis\\b", "\\bnanoTime\\b", "\\bMAX_VALUE\\b", "\\bMIN_VALUE\\b"};
 
     public static void main(String[] args) throws IOException {
         Checks checks = new Checks();

@@ -53,27 +53,6 @@ public final class PromiseTest {
         checks.due("promise " + promise + ": " + call, got, want);
     }
 
-    /** A book with scenes on these days, at place 0. */
-    private static ShotBook withDays(int... days) {
-        ShotBook book = new ShotBook();
-        for (int day : days) {
-            book.scene(day, 0);
-        }
-        return book;
-    }
-
-    /** A book with a scene a day that is given, a thing 0, and a take of each scene that shows it so and is chosen. */
-    private static ShotBook chosenShow(int law, int rate, int[] days, int... measures) {
-        ShotBook book = withDays(days);
-        book.thing(law, rate, 1);
-        for (int s = 0; s < measures.length; s++) {
-            book.take(s, 0);
-            book.show(s, 0, measures[s]);
-            book.choose(s, s);
-        }
-        return book;
-    }
-
     private void newObject() {
         promise = 1;
         ShotBook book = new ShotBook();
@@ -119,7 +98,7 @@ public final class PromiseTest {
 
     private void shift() {
         promise = 3;
-        ShotBook book = withDays(1, 2);
+        ShotBook book = Books.withDays(1, 2);
         due("a new day", book.shift(0, 99, 98), 1);
         due("day", book.of(0, 0), 99);
         due("place", book.of(0, 1), 98);
@@ -166,7 +145,7 @@ public final class PromiseTest {
 
     private void loud() {
         promise = 5;
-        ShotBook book = chosenShow(STEADY, 0, new int[] {1, 1}, 3, 4);
+        ShotBook book = Books.chosenShow(STEADY, 0, new int[] {1, 1}, 3, 4);
         due("1 becomes 9", book.loud(0, 9), 1);
         due("9 becomes 4", book.loud(0, 4), 9);
         due("noise follows", book.noise(0, 1), 4);
@@ -179,7 +158,7 @@ public final class PromiseTest {
 
     private void take() {
         promise = 6;
-        ShotBook book = withDays(1, 1, 1, 1, 1);
+        ShotBook book = Books.withDays(1, 1, 1, 1, 1);
         book.thing(STEADY, 0, 1);
         due("no such scene", book.take(5, 0), NUMBER);
         due("scene -1", book.take(-1, 0), NUMBER);
@@ -208,7 +187,7 @@ public final class PromiseTest {
 
     private void show() {
         promise = 7;
-        ShotBook book = withDays(1, 1);
+        ShotBook book = Books.withDays(1, 1);
         book.take(0, 0);
         book.take(0, 0);
         due("no such thing yet", book.show(0, 0, 1), FIVE);
@@ -232,7 +211,7 @@ public final class PromiseTest {
 
     private void like() {
         promise = 8;
-        ShotBook book = withDays(1);
+        ShotBook book = Books.withDays(1);
         for (int t = 0; t < 5; t++) {
             book.thing(STEADY, 0, 1);
         }
@@ -285,7 +264,7 @@ public final class PromiseTest {
 
     private void told() {
         promise = 10;
-        ShotBook book = withDays(1, 2);
+        ShotBook book = Books.withDays(1, 2);
         book.thing(STEADY, 0, 1);
         book.thing(WANING, 0, 1);
         book.take(0, 1);
@@ -312,7 +291,7 @@ public final class PromiseTest {
 
     private void thingOf() {
         promise = 11;
-        ShotBook book = withDays(1);
+        ShotBook book = Books.withDays(1);
         book.thing(GROWING, 0, 6);
         book.thing(HEALING, 4, 7);
         book.take(0, 0);
@@ -437,7 +416,7 @@ public final class PromiseTest {
 
     private void noise() {
         promise = 14;
-        ShotBook book = withDays(1, 1, 2);
+        ShotBook book = Books.withDays(1, 1, 2);
         book.thing(STEADY, 0, 2);
         book.thing(STEADY, 0, 3);
         book.thing(STEADY, 0, 4);
@@ -462,7 +441,7 @@ public final class PromiseTest {
 
     /** Three scenes of one day, two takes each, of which every cut but {0, 3, 5} and {1, 2, 4} is noisy. */
     private static ShotBook twoWays() {
-        ShotBook book = withDays(1, 1, 1);
+        ShotBook book = Books.withDays(1, 1, 1);
         book.thing(STEADY, 0, 5);
         int[] scenes = {0, 0, 1, 1, 2, 2};
         int[] flaws = {3, 0, 1, 0, 1, 0};
@@ -476,7 +455,7 @@ public final class PromiseTest {
 
     private void cost() {
         promise = 15;
-        ShotBook book = withDays(1, 2);
+        ShotBook book = Books.withDays(1, 2);
         due("no takes", book.cost(), 0);
         book.take(1, 20);
         due("one flaw", book.cost(), 20);
@@ -502,7 +481,7 @@ public final class PromiseTest {
         due("scene -1", book.cut(-1), NUMBER);
         due("nothing is chosen by it", book.many(3), 0);
         // Alike in cost: {0, 3} and {1, 2}; the first scene decides, not the sum or the last one.
-        book = withDays(1, 1);
+        book = Books.withDays(1, 1);
         book.thing(STEADY, 0, 5);
         for (int t = 0; t < 4; t++) {
             book.take(t / 2, 0);
@@ -511,7 +490,7 @@ public final class PromiseTest {
         due("the lesser one of the first scene", book.cut(0), 0);
         due("what goes with it", book.cut(1), 3);
         // Takes that come crosswise: scene 1 has the lesser numbers.
-        book = withDays(1, 1);
+        book = Books.withDays(1, 1);
         book.take(1, 4);
         book.take(0, 4);
         book.take(1, 4);
@@ -525,7 +504,7 @@ public final class PromiseTest {
 
     private void choose() {
         promise = 17;
-        ShotBook book = withDays(1, 2);
+        ShotBook book = Books.withDays(1, 2);
         book.take(0, 0);
         book.take(1, 0);
         book.take(0, 0);
@@ -588,7 +567,7 @@ public final class PromiseTest {
 
     private void span() {
         promise = 20;
-        ShotBook book = chosenShow(STEADY, 0, new int[] {1, 1, 2, 1}, 40, -1, 50);
+        ShotBook book = Books.chosenShow(STEADY, 0, new int[] {1, 1, 2, 1}, 40, -1, 50);
         dueSpan(book, 0, 0, 99);
         dueSpan(book, 1, 40, 40);
         dueSpan(book, 2, 0, 99);
@@ -604,14 +583,14 @@ public final class PromiseTest {
         due("scene -1", book.span(-1, 0, 0), NUMBER);
         due("no such thing", book.span(0, 1, 0), NUMBER);
         due("thing -1", book.span(0, -1, 0), NUMBER);
-        book = chosenShow(WANING, 0, new int[] {1, 3, 5, 3, 0, 9}, 60, 50, 20);
+        book = Books.chosenShow(WANING, 0, new int[] {1, 3, 5, 3, 0, 9}, 60, 50, 20);
         dueSpan(book, 0, 50, 99);
         dueSpan(book, 1, 20, 60);
         dueSpan(book, 2, 0, 50);
         dueSpan(book, 3, 20, 60);
         dueSpan(book, 4, 60, 99);
         dueSpan(book, 5, 0, 20);
-        book = chosenShow(GROWING, 0, new int[] {1, 3, 5, 3, 0, 9}, 20, 50, 60);
+        book = Books.chosenShow(GROWING, 0, new int[] {1, 3, 5, 3, 0, 9}, 20, 50, 60);
         dueSpan(book, 0, 0, 50);
         dueSpan(book, 1, 20, 60);
         dueSpan(book, 2, 50, 99);
@@ -623,7 +602,7 @@ public final class PromiseTest {
     }
 
     private void spanOfHealing() {
-        ShotBook book = chosenShow(HEALING, 5, new int[] {0, 2, 4}, -1, 30);
+        ShotBook book = Books.chosenShow(HEALING, 5, new int[] {0, 2, 4}, -1, 30);
         dueSpan(book, 0, 40, 40);
         dueSpan(book, 2, 20, 20);
         book.show(1, 0, 10);
@@ -650,7 +629,7 @@ public final class PromiseTest {
 
     /** A thing that wanes over six days, chosen as 90, 50 and 10 on the first, third and fifth of them. */
     private static ShotBook stairs() {
-        return chosenShow(WANING, 0, new int[] {1, 2, 3, 4, 5, 6}, 90, -1, 50, -1, 10);
+        return Books.chosenShow(WANING, 0, new int[] {1, 2, 3, 4, 5, 6}, 90, -1, 50, -1, 10);
     }
 
     private void twin() {
@@ -672,10 +651,10 @@ public final class PromiseTest {
         due("a negative set", book.twin(0, -1, 0), NUMBER);
         due("the least set", book.twin(0, LEAST, 0), NUMBER);
         due("NUMBER is named before NONE", book.twin(0, 64, -1), NUMBER);
-        book = chosenShow(GROWING, 0, new int[] {1, 2, 3}, -1, 60);
+        book = Books.chosenShow(GROWING, 0, new int[] {1, 2, 3}, -1, 60);
         due("scene 0 ends below all", book.twin(0, 7, 0), 60);
         due("so one does", book.twin(0, 7, 1), NONE);
-        book = chosenShow(STEADY, 0, new int[] {1, 1, 2, 2, 3}, 7, -1, 5, -1);
+        book = Books.chosenShow(STEADY, 0, new int[] {1, 1, 2, 2, 3}, 7, -1, 5, -1);
         due("the lesser comes first", book.twin(0, 10, 0), 5);
         due("the greater is next", book.twin(0, 10, 1), 7);
         book.take(1, 0);
@@ -702,7 +681,7 @@ public final class PromiseTest {
         due("an empty span", book.doubles(0, 2), NONE);
         due("an empty span among others", book.doubles(0, 63), NONE);
         due("no scenes, still", book.doubles(0, 0), 0);
-        book = chosenShow(STEADY, 0, new int[] {1, 2, 3, 1, 2, 3}, 1, 2, 3);
+        book = Books.chosenShow(STEADY, 0, new int[] {1, 2, 3, 1, 2, 3}, 1, 2, 3);
         due("three days, three doubles", book.doubles(0, 56), 3);
         due("with free scenes, three", book.doubles(0, 63), 3);
         due("one free scene with two", book.doubles(0, 1 + 8 + 16), 2);
@@ -710,7 +689,7 @@ public final class PromiseTest {
 
     private void reshoot() {
         promise = 23;
-        ShotBook book = chosenShow(STEADY, 0, new int[] {1, 1, 1, 1}, 5, 5, 6, 5);
+        ShotBook book = Books.chosenShow(STEADY, 0, new int[] {1, 1, 1, 1}, 5, 5, 6, 5);
         due("the odd one", book.reshoot(), 4);
         book.show(0, 0, 6);
         due("two against two: the least set", book.reshoot(), 5);
@@ -720,15 +699,15 @@ public final class PromiseTest {
         due("scene 0", book.reshoot(), 1);
         book.choose(0, -1);
         due("nothing clashes", book.reshoot(), 0);
-        book = chosenShow(GROWING, 0, new int[] {1, 2, 3, 4, 5, 6}, 6, 5, 4, 3, 2, 1);
+        book = Books.chosenShow(GROWING, 0, new int[] {1, 2, 3, 4, 5, 6}, 6, 5, 4, 3, 2, 1);
         due("all but the last", book.reshoot(), 31);
-        book = chosenShow(GROWING, 0, new int[] {1, 2, 3}, 10, 20, 5);
+        book = Books.chosenShow(GROWING, 0, new int[] {1, 2, 3}, 10, 20, 5);
         due("one of the last", book.reshoot(), 4);
     }
 
     private void clashes() {
         promise = 24;
-        ShotBook book = chosenShow(GROWING, 0, new int[] {1, 2, 3, 4}, 4, 3, 2);
+        ShotBook book = Books.chosenShow(GROWING, 0, new int[] {1, 2, 3, 4}, 4, 3, 2);
         book.thing(STEADY, 0, 1);
         due("three pairs", book.clashes(0), 3);
         due("none by the other thing", book.clashes(1), 0);
@@ -743,7 +722,7 @@ public final class PromiseTest {
 
     private void many() {
         promise = 25;
-        ShotBook book = chosenShow(STEADY, 0, new int[] {1, 1, 1, 2}, 1, 2);
+        ShotBook book = Books.chosenShow(STEADY, 0, new int[] {1, 1, 1, 2}, 1, 2);
         book.thing(STEADY, 0, 1);
         book.take(0, 0);
         book.show(2, 0, 3);
@@ -760,7 +739,7 @@ public final class PromiseTest {
 
     private void keep() {
         promise = 26;
-        ShotBook book = withDays(1);
+        ShotBook book = Books.withDays(1);
         due("first", book.keep(), 1);
         book.scene(2, 2);
         due("again", book.keep(), 1);
@@ -776,7 +755,7 @@ public final class PromiseTest {
 
     private void back() {
         promise = 27;
-        ShotBook book = withDays(1, 1);
+        ShotBook book = Books.withDays(1, 1);
         due("nothing is kept", book.back(), NONE);
         due("refused, all stays", book.many(0), 2);
         book.thing(HEALING, 2, 3);
