@@ -246,10 +246,11 @@ public final class ShotBook {
     }
 
     public int twin(int thing, int scenes, int i) {
-        int count = doublesOrRefusal(thing, scenes);
-        if (count == NUMBER) {
+        if (!now.isThing(thing) || !now.isSetOfScenes(scenes)) {
             return NUMBER;
         }
+        int count = spans.findDoubles(now, thing, scenes);
+        // A count of NONE is below 0, so it leaves no i either.
         if (i < 0 || i >= count) {
             return NONE;
         }
@@ -257,7 +258,10 @@ public final class ShotBook {
     }
 
     public int doubles(int thing, int scenes) {
-        return doublesOrRefusal(thing, scenes);
+        if (!now.isThing(thing) || !now.isSetOfScenes(scenes)) {
+            return NUMBER;
+        }
+        return spans.findDoubles(now, thing, scenes);
     }
 
     public int reshoot() {
@@ -335,13 +339,6 @@ public final class ShotBook {
         }
         int thing = what - FIRST_MEASURE_ASKED;
         return now.isThing(thing) ? orNone(now.measureOf(take, thing)) : NUMBER;
-    }
-
-    private int doublesOrRefusal(int thing, int scenes) {
-        if (!now.isThing(thing) || !now.isSetOfScenes(scenes)) {
-            return NUMBER;
-        }
-        return spans.findDoubles(now, thing, scenes);
     }
 
     /** All that is told and chosen; what keep() and back() copy. */

@@ -18,8 +18,8 @@ final class CutBoundaries {
         sentences.test("A CUT gives each SCENE that has TAKES one of these.", this::cutOfEachScene);
         sentences.test("It COSTS NOISE of each two of them, and their FLAWS, all together.", this::costOfCut);
         sentences.test("THE BEST CUT COSTS least;", this::leastCost);
-        sentences.test("of several it is the one in which the first SCENE for which they are unlike has the lesser TAKE.",
-            this::lesserTakes);
+        sentences.test("of several it is the one in which the first SCENE for which they are unlike has the lesser "
+            + "TAKE.", this::lesserTakes);
         sentences.test("Each SCENE may have a CHOSEN TAKE (none at first), one of its own.", this::chosenAtFirst);
     }
 

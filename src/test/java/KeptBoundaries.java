@@ -13,10 +13,10 @@ final class KeptBoundaries {
 
     void run() {
         sentences.in("What it is");
-        sentences.noBoundary("A book of shots for a film taken out of order: what each take shows is told, things are "
-            + "steady, wane, grow or heal by story days, takes that can't both be are told with the thing, the best cut "
-            + "has the least of that, what a scene must show is a span, doubles of a thing are the fewest that do, and "
-            + "the fewest scenes to be taken again are found.");
+        sentences.noBoundary("A book of shots for a film taken out of order: what each take shows is told, things "
+            + "are steady, wane, grow or heal by story days, takes that can't both be are told with the thing, the "
+            + "best cut has the least of that, what a scene must show is a span, doubles of a thing are the fewest "
+            + "that do, and the fewest scenes to be taken again are found.");
         sentences.test("An object is used for at most 512 calls after it has been made;", this::lastCalls);
         sentences.test("what later calls answer is free.", this::laterCalls);
         sentences.in("Promise 1");

@@ -15,11 +15,12 @@ final class ShownBoundaries {
 
     private void terms() {
         sentences.in("Terms");
-        sentences.test("SPAN of a THING in a SCENE: all MEASURES with which a TAKE of this SCENE, if it SHOWED the THING "
-            + "so, would CLASH by it with none of the CHOSEN TAKES of other SCENES", this::spanIsWhatDoesNotClash);
+        sentences.test("SPAN of a THING in a SCENE: all MEASURES with which a TAKE of this SCENE, if it SHOWED the "
+            + "THING so, would CLASH by it with none of the CHOSEN TAKES of other SCENES",
+            this::spanIsWhatDoesNotClash);
         sentences.test("(MEASURES one behind the other, or none).", this::spanHasNoGap);
-        sentences.test("DOUBLES of a THING for some SCENES: a rising row of MEASURES, as few as can be, so that each of "
-            + "these SCENES has one of them in its SPAN;", this::fewestDoubles);
+        sentences.test("DOUBLES of a THING for some SCENES: a rising row of MEASURES, as few as can be, so that each "
+            + "of these SCENES has one of them in its SPAN;", this::fewestDoubles);
         sentences.test("of several rows it is the one that has, at the first place at which they are unlike, the "
             + "greater one.", this::greatestDoubles);
         sentences.test("There are none if the SPAN of one of these SCENES is empty.", this::noDoubles);
@@ -176,17 +177,16 @@ final class ShownBoundaries {
     private void fewestReshoots() {
         sentences.due("nothing at all", new ShotBook().reshoot(), 0);
         sentences.due("none chosen", Books.withDays(1, 1, 1, 1, 1, 1).reshoot(), 0);
-        int[] oneDay = {1, 1, 1, 1, 1, 1};
-        sentences.due("none clash", Books.chosenShow(Books.STEADY, 0, oneDay, 5, 5, 5, 5, 5, 5).reshoot(), 0);
+        sentences.due("none clash", onOneDay(5, 5, 5, 5, 5, 5).reshoot(), 0);
         for (int odd = 0; odd < 6; odd++) {
             int[] measures = {5, 5, 5, 5, 5, 5};
             measures[odd] = 6;
-            ShotBook book = Books.chosenShow(Books.STEADY, 0, oneDay, measures);
+            ShotBook book = onOneDay(measures);
             sentences.due("the odd one", book.reshoot(), 1 << odd);
             book.choose(odd, -1);
             sentences.due("without the odd one", book.reshoot(), 0);
         }
-        sentences.due("all but one", Books.chosenShow(Books.STEADY, 0, oneDay, 1, 2, 3, 4, 5, 6).reshoot(), 31);
+        sentences.due("all but one", onOneDay(1, 2, 3, 4, 5, 6).reshoot(), 31);
         sentences.due("one of many, though the greatest",
             Books.chosenShow(Books.GROWING, 0, new int[] {1, 2, 3, 4, 5, 6}, 5, 5, 5, 5, 5, 4).reshoot(), 32);
         sentences.due("clashes by unlike things", byUnlikeThings().reshoot(), 2);
@@ -202,12 +202,16 @@ final class ShownBoundaries {
     }
 
     private void leastReshoots() {
-        int[] oneDay = {1, 1, 1, 1, 1, 1};
-        sentences.due("one of two", Books.chosenShow(Books.STEADY, 0, oneDay, 1, 2).reshoot(), 1);
-        sentences.due("three of six", Books.chosenShow(Books.STEADY, 0, oneDay, 1, 1, 1, 2, 2, 2).reshoot(), 7);
-        sentences.due("three of six, crosswise", Books.chosenShow(Books.STEADY, 0, oneDay, 1, 2, 1, 2, 1, 2).reshoot(), 21);
-        sentences.due("the last two", Books.chosenShow(Books.STEADY, 0, oneDay, -1, -1, -1, -1, 1, 2).reshoot(), 16);
-        sentences.due("without the last one", Books.chosenShow(Books.STEADY, 0, oneDay, 2, 1, 1, 1, 2, 2).reshoot(), 14);
+        sentences.due("one of two", onOneDay(1, 2).reshoot(), 1);
+        sentences.due("three of six", onOneDay(1, 1, 1, 2, 2, 2).reshoot(), 7);
+        sentences.due("three of six, crosswise", onOneDay(1, 2, 1, 2, 1, 2).reshoot(), 21);
+        sentences.due("the last two", onOneDay(-1, -1, -1, -1, 1, 2).reshoot(), 16);
+        sentences.due("without the last one", onOneDay(2, 1, 1, 1, 2, 2).reshoot(), 14);
+    }
+
+    /** Six scenes of one day; the first ones have chosen takes that show a steady thing so. */
+    private static ShotBook onOneDay(int... measures) {
+        return Books.chosenShow(Books.STEADY, 0, new int[] {1, 1, 1, 1, 1, 1}, measures);
     }
 
     private void spans() {
@@ -390,11 +394,10 @@ final class ShownBoundaries {
     }
 
     private void reshoot() {
-        int[] oneDay = {1, 1, 1, 1, 1, 1};
         sentences.due("none", new ShotBook().reshoot(), 0);
-        sentences.due("all but the last", Books.chosenShow(Books.STEADY, 0, oneDay, 1, 2, 3, 4, 5, 6).reshoot(), 31);
-        sentences.due("the last", Books.chosenShow(Books.STEADY, 0, oneDay, 1, 1, 1, 1, 1, 2).reshoot(), 32);
-        ShotBook book = Books.chosenShow(Books.STEADY, 0, oneDay, 1, 2, 3, 4, 5, 6);
+        sentences.due("all but the last", onOneDay(1, 2, 3, 4, 5, 6).reshoot(), 31);
+        sentences.due("the last", onOneDay(1, 1, 1, 1, 1, 2).reshoot(), 32);
+        ShotBook book = onOneDay(1, 2, 3, 4, 5, 6);
         book.choose(0, -1);
         sentences.due("without the first", book.reshoot(), 30);
         sentences.due("the chosen ones stay", book.many(3), 5);
@@ -402,7 +405,7 @@ final class ShownBoundaries {
     }
 
     private void clashes() {
-        ShotBook book = Books.chosenShow(Books.STEADY, 0, new int[] {1, 1, 1, 1, 1, 1}, 1, 2, 3, 4, 5, 6);
+        ShotBook book = onOneDay(1, 2, 3, 4, 5, 6);
         sentences.due("all pairs", book.clashes(0), 15);
         for (int s = 0; s < 6; s++) {
             book.choose(s, -1);
@@ -462,6 +465,8 @@ final class ShownBoundaries {
         sentences.due("the last one with all of other scenes", book.many(4), 12);
         book.show(15, 1, 5);
         sentences.due("none", book.many(4), 0);
+        book.show(0, 0, 6);
+        sentences.due("by what is least loud", book.many(4), 12);
         sentences.due("a new book", new ShotBook().many(4), 0);
     }
 

@@ -296,10 +296,8 @@ final class TermsBoundaries {
     private void healedBelowNothing() {
         for (int v : MEASURES) {
             for (int days = 11; days <= 99; days += 11) {
-                boolean below = v - 9 * days < 0;
-                sentences.due(v + " after " + days, clash(Books.HEALING, 9, 0, v, days, 0), below || v == 9 * days ? 0 : 1);
-                sentences.due("1 from " + v + " after " + days, clash(Books.HEALING, 9, 0, v, days, 1),
-                    v - 9 * days == 1 ? 0 : 1);
+                sentences.due(v + " after " + days, clash(Books.HEALING, 9, 0, v, days, 0), 0);
+                sentences.due("1 from " + v + " after " + days, clash(Books.HEALING, 9, 0, v, days, 1), 1);
             }
         }
         sentences.due("0 stays 0", clash(Books.HEALING, 1, 0, 0, 1, 0), 0);
