@@ -206,6 +206,26 @@ final class KeptBoundaries {
         changeAll(full);
         full.back();
         sentences.holds("a full book is as it was", Books.picture(full).equals(before));
+        foundAnew();
+    }
+
+    /** What is found in a book with more in it leaves nothing behind when the book goes back. */
+    private void foundAnew() {
+        ShotBook book = Books.chosenShow(Books.STEADY, 0, new int[] {1, 1}, 5, 5);
+        book.keep();
+        for (int s = 2; s < 6; s++) {
+            book.scene(1, 0);
+            book.show(book.take(s, 20), 0, s);
+            book.choose(s, s);
+        }
+        sentences.due("three to be taken again", book.reshoot(), 4 + 8 + 16);
+        sentences.due("cost", book.cost(), 80 + 12);
+        sentences.due("an empty span", book.doubles(0, 3), ShotBook.NONE);
+        book.back();
+        sentences.due("none to be taken again", book.reshoot(), 0);
+        sentences.due("no cost", book.cost(), 0);
+        sentences.due("one double", book.doubles(0, 3), 1);
+        sentences.due("no clash", book.clashes(0), 0);
     }
 
     private static void changeAll(ShotBook book) {
