@@ -15,11 +15,14 @@ public final class CompareTest {
     private final Random random;
     private final int days;
     private final int measures;
+    private final boolean beginsFull;
 
     private CompareTest(int seed) {
         random = new Random(seed);
         days = 1 + random.nextInt(seed % 3 == 0 ? 100 : 6);
         measures = 1 + random.nextInt(seed % 2 == 0 ? 100 : 12);
+        // Books that come about by chance alone stay nearly empty, and seldom have clashes.
+        beginsFull = seed % 4 < 2;
     }
 
     public static void main(String[] args) throws ReflectiveOperationException {
@@ -42,9 +45,12 @@ public final class CompareTest {
         ShotBook book = new ShotBook();
         PlainBook plain = new PlainBook();
         List<String> trace = new ArrayList<>();
+        List<Object[]> opening = beginsFull ? fullBook() : List.of();
         for (int i = 0; i < CALLS && checks.allRight(); i++) {
-            Method call = nextCall(face, i);
-            Object[] arguments = argumentsOf(call.getName(), call.getParameterCount());
+            boolean opens = i < opening.size();
+            Method call = opens ? named(face, (String) opening.get(i)[0]) : nextCall(face, i);
+            Object[] arguments = opens ? Arrays.copyOfRange(opening.get(i), 1, opening.get(i).length)
+                : argumentsOf(call.getName(), call.getParameterCount());
             int got = (Integer) call.invoke(book, arguments);
             Method same = PlainBook.class.getDeclaredMethod(call.getName(), call.getParameterTypes());
             int want = (Integer) same.invoke(plain, arguments);
@@ -55,6 +61,41 @@ public final class CompareTest {
         if (!checks.allRight()) {
             trace.forEach(System.out::println);
         }
+    }
+
+    private static Method named(List<Method> face, String name) {
+        for (Method m : face) {
+            if (m.getName().equals(name)) {
+                return m;
+            }
+        }
+        return face.get(0);
+    }
+
+    /** As many scenes, things and takes as may be, most of them shown and chosen; it is kept, so back() finds it. */
+    private List<Object[]> fullBook() {
+        List<Object[]> calls = new ArrayList<>();
+        for (int s = 0; s < 6; s++) {
+            calls.add(new Object[] {"scene", usual("scene", 0), usual("scene", 1)});
+        }
+        for (int t = 0; t < 6; t++) {
+            int law = random.nextInt(4);
+            calls.add(new Object[] {"thing", law, law == 3 ? 1 + random.nextInt(9) : 0, usual("thing", 2)});
+        }
+        for (int k = 0; k < 16; k++) {
+            calls.add(new Object[] {"take", k % 6, usual("take", 1)});
+            for (int t = 0; t < 6; t++) {
+                if (random.nextInt(4) != 0) {
+                    calls.add(new Object[] {"show", k, t, usual("show", 2)});
+                }
+            }
+        }
+        for (int s = 0; s < 6; s++) {
+            // Scenes 4 and 5 have two takes each, so their third one is refused: there is none such.
+            calls.add(new Object[] {"choose", s, random.nextInt(6) == 0 ? -1 : s + 6 * random.nextInt(3)});
+        }
+        calls.add(new Object[] {"keep"});
+        return calls;
     }
 
     /** Early calls mostly tell, so that there is much to ask for later; back() is made rare. */
@@ -69,14 +110,7 @@ public final class CompareTest {
         if (wanted == null && drawn.getName().equals("back") && random.nextInt(3) != 0) {
             wanted = "doubles";
         }
-        if (wanted != null) {
-            for (Method m : face) {
-                if (m.getName().equals(wanted)) {
-                    return m;
-                }
-            }
-        }
-        return drawn;
+        return wanted == null ? drawn : named(face, wanted);
     }
 
     private Object[] argumentsOf(String name, int count) {

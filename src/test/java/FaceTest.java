@@ -85,10 +85,16 @@ public final class FaceTest {
                 publicNames.add(m.getName());
             }
         }
+        for (Method m : ShotBook.class.getDeclaredMethods()) {
+            checks.holds(m.getName() + " is public, or isn't a public call's name",
+                Modifier.isPublic(m.getModifiers()) || !publicNames.contains(m.getName()));
+        }
+        checkStaticFields(checks, ShotBook.class);
         for (Class<?> inside : ShotBook.class.getDeclaredClasses()) {
             checks.holds(inside.getName() + " is static", Modifier.isStatic(inside.getModifiers()));
             checks.holds(inside.getName() + " isn't public", !Modifier.isPublic(inside.getModifiers()));
             checks.holds(inside.getName() + " has at most twenty fields", inside.getDeclaredFields().length <= 20);
+            checkStaticFields(checks, inside);
             for (Method m : inside.getDeclaredMethods()) {
                 checks.holds(m.getName() + " isn't a public call's name", !publicNames.contains(m.getName()));
                 checks.holds(m.getName() + " has at most seven parameters", m.getParameterCount() <= 7);
@@ -97,11 +103,31 @@ public final class FaceTest {
         checks.holds("at most twelve classes", ShotBook.class.getDeclaredClasses().length < 12);
     }
 
+    private static void checkStaticFields(Checks checks, Class<?> type) {
+        for (Field f : type.getDeclaredFields()) {
+            checks.holds(f.getName() + " is of an object, or final",
+                !Modifier.isStatic(f.getModifiers()) || Modifier.isFinal(f.getModifiers()));
+        }
+    }
+
+    private static void checkLengths(Checks checks, String code) {
+        // A method ends at the first closing brace that stands as far in as its first line.
+        Matcher method = Pattern.compile("(?ms)^( +)(?:public|private) [^;={]*\\) \\{$.*?^\\1\\}$").matcher(code);
+        int found = 0;
+        while (method.find()) {
+            found++;
+            long lines = method.group().lines().count();
+            checks.holds("at most sixty lines: " + method.group().lines().findFirst().orElse(""), lines <= 60);
+        }
+        checks.holds("the methods are found", found >= ShotBook.class.getDeclaredMethods().length);
+    }
+
     private static void checkText(Checks checks) throws IOException {
         String code = Files.readString(PROGRAM).replaceAll("//[^\n]*", "").replaceAll("(?s)/\\*.*?\\*/", "");
         for (String word : FORBIDDEN) {
             checks.holds("the code has no " + word, !Pattern.compile(word).matcher(code).find());
         }
+        checkLengths(checks, code);
         Matcher imported = Pattern.compile("import ([^;]*);").matcher(code);
         while (imported.find()) {
             checks.holds("import " + imported.group(1),
